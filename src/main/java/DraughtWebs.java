@@ -503,7 +503,7 @@ public final class DraughtWebs {
 
         boolean stepOver(int sign) {
             if (peek() != sign) {
-                return fail(1);
+                return failAt(1, place);
             }
             step();
             return true;
@@ -530,11 +530,11 @@ public final class DraughtWebs {
                 step();
             }
             if (place == first) {
-                fail(1);
+                failAt(1, place);
                 return NONE;
             }
             if (isAt('0', '9')) {
-                fail(2);
+                failAt(2, place);
                 return NONE;
             }
             return value;
@@ -751,7 +751,7 @@ public final class DraughtWebs {
             if (tensions[i] == 0 || law.firstRule('x') != NONE) {
                 return false;
             }
-            tensions[i] = Math.max(0, tensions[i] - law.worth('t'));
+            tensions[i] = Math.max(0, tensions[i] - law.worthOf(law.firstRule('t')));
             return true;
         }
 
@@ -761,7 +761,7 @@ public final class DraughtWebs {
                     int i = p * SPOKES + s;
                     law.seeWeb(p, s, tensions[i], slackSpokes(p), hour % 24);
                     law.seeNoFleet();
-                    tensions[i] = Math.min(TIGHT, tensions[i] + law.worth('m'));
+                    tensions[i] = Math.min(TIGHT, tensions[i] + law.worthOf(law.firstRule('m')));
                 }
             }
         }
@@ -901,12 +901,12 @@ public final class DraughtWebs {
             return NONE;
         }
 
-        int worth(int kind) {
-            int k = firstRule(kind);
-            if (k < 0 || k >= MOST_RULES) {
+        /** Of no rule it is 0. */
+        int worthOf(int rule) {
+            if (rule < 0 || rule >= ruleCount) {
                 return 0;
             }
-            run(worthStarts[k]);
+            run(worthStarts[rule]);
             return refused || heaped < 1 ? 0 : Math.max(0, Math.min(TIGHT, heap[0]));
         }
 
@@ -1034,42 +1034,27 @@ public final class DraughtWebs {
                 }
                 into.endWorth();
             }
-            if (!text.stepOver('(') || !condition(into, 1) || !text.stepOver(')')) {
+            if (!text.stepOver('(') || !condition(into, 1, '|') || !text.stepOver(')')) {
                 return false;
             }
             into.endRule();
             return true;
         }
 
-        private boolean condition(Law into, int depth) {
+        /** Parts with | between two; a part, by the sign &: tests with & between two. */
+        private boolean condition(Law into, int depth, int sign) {
             int jump = NONE;
             for (int k = 0; k <= LAW_BYTES; k++) {
-                if (!part(into, depth)) {
+                boolean isRead = sign == '|' ? condition(into, depth, '&') : test(into, depth);
+                if (!isRead) {
                     return false;
                 }
                 into.landJump(jump);
-                if (text.peek() != '|') {
+                if (text.peek() != sign) {
                     return true;
                 }
                 text.step();
-                into.writeSign('|');
-                jump = into.lastSign();
-            }
-            return text.fail(1);
-        }
-
-        private boolean part(Law into, int depth) {
-            int jump = NONE;
-            for (int k = 0; k <= LAW_BYTES; k++) {
-                if (!test(into, depth)) {
-                    return false;
-                }
-                into.landJump(jump);
-                if (text.peek() != '&') {
-                    return true;
-                }
-                text.step();
-                into.writeSign('&');
+                into.writeSign(sign);
                 jump = into.lastSign();
             }
             return text.fail(1);
@@ -1083,7 +1068,7 @@ public final class DraughtWebs {
                 }
                 text.step();
                 if (open == '(') {
-                    return condition(into, depth + 1) && text.stepOver(')');
+                    return condition(into, depth + 1, '|') && text.stepOver(')');
                 }
                 if (!test(into, depth + 1)) {
                     return false;

@@ -19,7 +19,7 @@ public final class RandomRunsTest {
     }
 
     public static void main(String[] args) {
-        int runs = args.length > 0 ? Integer.parseInt(args[0]) : 400;
+        int runs = args.length > 0 ? Integer.parseInt(args[0]) : 200;
         Due due = new Due("RandomRunsTest");
         for (int run = 1; run <= runs; run++) {
             RandomRunsTest test = new RandomRunsTest(run, due);

@@ -19,41 +19,8 @@ public final class RefusedTest {
         DUE.end();
     }
 
-    private static DraughtWebs rich() {
-        DraughtWebs x = Due.at("a@5,5;c@9,9;h@20,3;A@5,3:30>2;D@9,2:25;H@22,14:40>7");
-        Due.law(x, "t7+w(v>20);t3(1=1);m2(r<3);x(w=4)");
-        x.seed(999);
-        x.hours(30);
-        x.tension(0, 0, 0);
-        x.keep();
-        x.hours(5);
-        return x;
-    }
-
-    /** All that can be asked without the tape's bytes. */
-    private static String all(DraughtWebs x) {
-        StringBuilder all = new StringBuilder();
-        for (int what = 0; what < 7; what++) {
-            all.append(x.count(what)).append(' ');
-        }
-        for (int k = 0; k < 8; k++) {
-            for (int what = 0; what < 12; what++) {
-                all.append(x.webIs(k, what)).append(' ').append(x.fleetIs(k, what)).append(' ');
-            }
-        }
-        all.append(x.tried(50, 0)).append(' ').append(x.tried(50, 10)).append(' ').append(x.tried(50, 20));
-        return all.toString();
-    }
-
-    /** What was kept, too. */
-    private static String allWithKept(DraughtWebs x) {
-        String now = all(x);
-        x.undo();
-        return now + " kept " + all(x);
-    }
-
     private static void is(String call, DraughtWebs x, String want) {
-        DUE.is(call + " changed something", allWithKept(x).equals(want), true);
+        DUE.is(call + " changed something", State.withKept(x).equals(want), true);
     }
 
     private static void refusedByNumbers() {
@@ -99,21 +66,21 @@ public final class RefusedTest {
         calls.add(x -> x.seed(65536) ? 0 : -1);
         calls.add(x -> x.check(9) + 1);
         calls.add(x -> x.count(7));
-        String before = allWithKept(Due.feed(rich(), "b@1,2"));
+        String before = State.withKept(Due.feed(State.rich(), "b@1,2"));
         for (int k = 0; k < calls.size(); k++) {
-            DraughtWebs x = Due.feed(rich(), "b@1,2");
+            DraughtWebs x = Due.feed(State.rich(), "b@1,2");
             DUE.is("refused " + k, calls.get(k).applyAsLong(x), -1);
             is("refused call " + k, x, before);
             DUE.is("the tape's bytes after call " + k, x.chart(5), 1);
             DUE.is("the tape's bytes after call " + k, x.webIs(1, 10), 49);
         }
-        DraughtWebs full = rich();
+        DraughtWebs full = State.rich();
         for (int k = 0; k < 13; k++) {
             full.feed(1, 2, 3, 4, 5);
         }
-        String fed = all(full);
+        String fed = State.of(full);
         DUE.is("feed", full.feed(9, 9, 9, 9, 9), -1);
-        DUE.is("feed changed something", all(full).equals(fed), true);
+        DUE.is("feed changed something", State.of(full).equals(fed), true);
     }
 
     /** With 20 bytes on the tape each of these needs more. */
@@ -126,13 +93,13 @@ public final class RefusedTest {
         calls.add(x -> x.smoothed(21, 0));
         calls.add(x -> x.spell(21, 0) + 999999);
         calls.add(x -> x.salutes(11));
-        String before = allWithKept(Due.feed(rich(), "b@1,2"));
+        String before = State.withKept(Due.feed(State.rich(), "b@1,2"));
         for (int k = 0; k < calls.size(); k++) {
-            DraughtWebs x = Due.feed(rich(), "b@1,2");
+            DraughtWebs x = Due.feed(State.rich(), "b@1,2");
             DUE.is("short tape " + k, calls.get(k).applyAsLong(x), -1);
             is("short tape " + k, x, before);
         }
-        DraughtWebs x = rich();
+        DraughtWebs x = State.rich();
         DUE.is("empty tape: law", x.law(1), -1);
         DUE.is("empty tape: chart", x.chart(1), -1);
         DUE.is("empty tape: fix", x.fix(1, 0), -1);
@@ -145,7 +112,7 @@ public final class RefusedTest {
         DUE.is("empty tape: salutes", x.salutes(1), -1);
         DUE.is("empty tape: rent", x.rent(2, 0), -1);
         DUE.is("empty tape: check", x.check(1), -2);
-        is("an empty tape", x, allWithKept(rich()));
+        is("an empty tape", x, State.withKept(State.rich()));
     }
 
     private static void faultsEmptyTheTape() {
@@ -156,16 +123,16 @@ public final class RefusedTest {
         calls.add(x -> Due.feed(x, 0, 8).fix(1, 0));
         calls.add(x -> Due.feed(x, 0, 8).code(2, 0));
         calls.add(x -> Due.feed(x, 8, 0).salutes(1));
-        String before = allWithKept(rich());
+        String before = State.withKept(State.rich());
         for (int k = 0; k < calls.size(); k++) {
-            DraughtWebs x = rich();
+            DraughtWebs x = State.rich();
             DUE.is("a fault " + k, calls.get(k).applyAsLong(x) < -2, true);
             is("fault " + k, x, before);
         }
     }
 
     private static void questions() {
-        DraughtWebs x = rich();
+        DraughtWebs x = State.rich();
         x.tried(100, 0);
         x.when(0, 0, 100);
         x.feels(0, 0);
@@ -185,16 +152,15 @@ public final class RefusedTest {
         Due.feed(x, 1, 2, 3, 4).salutes(2);
         Due.feed(x, 1, 2, 3, 4).rent(4, 0);
         Due.feed(x, 1, 2, 3, 4).check(4);
-        is("a question", x, allWithKept(rich()));
+        is("a question", x, State.withKept(State.rich()));
     }
 
     /** No call throws, whatever the numbers are. */
     private static void wildNumbers() {
-        DraughtWebs x = rich();
         for (int a : WILD) {
             for (int b : WILD) {
                 for (int c : WILD) {
-                    Due.feed(x, 1, 2, 3, 4);
+                    DraughtWebs x = Due.feed(State.rich(), 1, 2, 3, 4);
                     long sum = x.tension(a, b, c) ? 1 : 0;
                     sum += x.law(a) + x.chart(a) + x.hours(a) + x.tried(a, b) + x.webIs(a, b) + x.fleetIs(a, b);
                     sum += x.feels(a, b) + x.when(a, b, c) + x.fix(a, b) + x.bearings(a, b, c, a);

@@ -197,6 +197,12 @@ final class BoundsOfAnHour {
             x.hours(1);
             due.is("99 at most, from " + v, x.webIs(0, 4), Math.min(99, v + 5));
         }
+        x = by("a@5,5;A@5,3:9;B@8,5:9;C@5,8:9", "m5(1=1)");
+        for (int s = 0; s < 8; s++) {
+            x.tension(0, s, 50);
+        }
+        due.is("three spokes are touched", x.hours(1), 3);
+        due.is("the five others are mended", tensions(x, 0), 3 * 50 + 5 * 55);
         x = by("a@5,5;b@5,7;A@5,3:3", "t7(1=1);m5(1=1)");
         x.tension(0, 0, 50);
         x.tension(1, 0, 50);

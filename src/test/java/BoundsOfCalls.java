@@ -191,7 +191,9 @@ final class BoundsOfCalls {
             due.refuses("webIs what " + what, NONE, y -> y.webIs(0, what));
         }
         for (int p : new int[] {-1, 1, 6, 8, Integer.MIN_VALUE, Integer.MAX_VALUE}) {
-            due.refuses("webIs of " + p, NONE, y -> y.webIs(p, 10));
+            for (int asked : new int[] {0, 7, 10, 11}) {
+                due.refuses("webIs of " + p + ", " + asked, NONE, y -> y.webIs(p, asked));
+            }
         }
     }
 
@@ -210,7 +212,10 @@ final class BoundsOfCalls {
             due.refuses("fleetIs what " + what, NONE, y -> y.fleetIs(0, what));
         }
         for (int f : new int[] {-1, 1, 6, 8, Integer.MIN_VALUE, Integer.MAX_VALUE}) {
-            due.refuses("fleetIs of " + f, NONE, y -> y.fleetIs(f, 0));
+            for (int what = 0; what < 3; what++) {
+                int asked = what;
+                due.refuses("fleetIs of " + f + ", " + what, NONE, y -> y.fleetIs(f, asked));
+            }
         }
     }
 

@@ -179,7 +179,11 @@ final class BoundsOfLogs {
 
     private void howOften() {
         due.says(TERMS, "the one that is most often (of like ones the lowest); the longest row of one");
-        is("7", COMMONEST, 7);
+        for (int s = 0; s < 8; s++) {
+            is("" + s, COMMONEST, s);
+            is("0" + s + s, COMMONEST, s);
+            is("7" + s, COMMONEST, s);
+        }
         is("70", COMMONEST, 0);
         is("7766", COMMONEST, 6);
         is("77665", COMMONEST, 6);
@@ -241,6 +245,11 @@ final class BoundsOfLogs {
         x = Due.feed(new DraughtWebs(), FULL);
         due.is("1 of 80", x.log(1, HOW_MANY), -1001);
         due.is("the tape", x.count(4), 0);
+        for (int k = 0; k < 3; k++) {
+            due.is("as many as there may be, again", Due.log(x, FULL, HOW_MANY), 64);
+            due.is("one behind as many as there may be", Due.log(x, "7", HOW_MANY), 1);
+            due.is("a fault between", Due.log(x, "((1", HOW_MANY), -1003);
+        }
     }
 
     private void questions() {

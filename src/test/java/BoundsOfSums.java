@@ -82,6 +82,7 @@ final class BoundsOfSums {
         DraughtWebs x = full(7);
         due.is("60 of 260", x.inCommon(30, 30), 30);
         empty("inCommon", x);
+        due.is("nothing behind as much as there may be", Due.feed(x, "ab").inCommon(1, 1), 0);
         x = Due.feed(new DraughtWebs(), fill(60, 7));
         due.is("60 of 60", x.inCommon(30, 30), 30);
         empty("inCommon", x);
@@ -140,6 +141,10 @@ final class BoundsOfSums {
         DraughtWebs x = full(1);
         due.is("12 of 260", x.code(12, 0), 44);
         empty("code", x);
+        due.is("as long as there may be", Due.feed(x, 1, 1, 2, 3, 5, 8, 13, 21, 34, 55, 89, 144).code(12, 1), 11);
+        due.is("as short as there may be behind it", Due.feed(x, 1, 1).code(2, 1), 1);
+        due.is("six behind it", Due.feed(x, 1, 1, 2, 3, 5, 8).code(6, 1), 5);
+        due.is("twelve like ones behind six", Due.feed(x, fill(12, 1)).code(12, 1), 4);
         due.says("Promise 20", "-3: one of 0");
         for (int what = 0; what < 2; what++) {
             int asked = what;
@@ -205,6 +210,12 @@ final class BoundsOfSums {
         crawl(57, 8, 7, 1, torn);
         torn[0] = 255;
         crawl(-2, 8, 7, 1, torn);
+        int[] inward = {254, 255, 0, 255, 222, 0};
+        crawl(6, 3, 2, 5, inward);
+        crawl(7, 3, 1, 5, inward);
+        crawl(8, 3, 0, 5, inward);
+        crawl(-2, 3, 1, 4, inward);
+        crawl(-2, 3, 0, 4, inward);
         crawl(6, 2, 0, 3, 254, 255, 0, 0);
         crawl(-2, 1, 0, 3, 254, 255, 0, 0);
         crawl(-2, 8, 7, 7, fill(16, 255));
@@ -223,6 +234,10 @@ final class BoundsOfSums {
         DraughtWebs x = full(0);
         due.is("16 of 260", x.crawls(8, 7, 7), 8);
         empty("crawls", x);
+        due.is("as far as there may be", Due.feed(x, spiral()).crawls(8, 7, 0), 64);
+        due.is("as near as there may be behind it", Due.feed(x, 0, 0).crawls(1, 0, 0), 1);
+        due.is("all torn behind it", Due.feed(x, 255, 255).crawls(1, 0, 0), -2);
+        due.is("all whole behind it", Due.feed(x, 0, 0).crawls(1, 0, 7), 1);
         due.says(promise, "-2: it can't");
         due.empties("crawls, all torn", -2, y -> y.crawls(8, 7, 7), fill(16, 255));
         due.empties("crawls, the last ring torn off", -2, y -> y.crawls(2, 1, 0), 0, 0, 255, 0);

@@ -296,6 +296,20 @@ final class BoundsOfTheLaw {
             x.hours(1);
             due.is("the hour of the day in m", x.webIs(0, 4), want24);
         }
+        x = Due.at("a@5,5;A@5,5:9");
+        Due.law(x, "th(1=1)");
+        x.hours(22);
+        for (int want24 : new int[] {22, 23, 0, 1}) {
+            x.tension(0, 0, 99);
+            x.hours(1);
+            due.is("the hour of the day of a touch", 99 - x.webIs(0, 0), want24);
+        }
+        x = Due.at("a@5,5;A@5,5:9");
+        x.hours(22);
+        for (int want24 : new int[] {22, 23, 0, 1}) {
+            Due.law(x, "x(!h=" + want24 + ")");
+            due.is("the hour of the day of an x", x.hours(1), 1);
+        }
     }
 
     private void lettersOfTouches() {
@@ -496,6 +510,16 @@ final class BoundsOfTheLaw {
         due.is("the m is gone", x.webIs(0, 4), 50);
         due.is("a law of 16 rules", Due.law(x, SIXTEEN), 16);
         due.is("rules", x.count(3), 16);
+        for (int k = 0; k < 5; k++) {
+            due.is("the longest again and again", Due.law(x, FULL), 1);
+            due.is("a fault between", Due.law(x, "t12345"), -1006);
+        }
+        x.tension(0, 0, 99);
+        x.hours(1);
+        due.is("worn by the longest", x.webIs(0, 0), 87);
+        due.is("a law behind a fault", Due.law(x, "t3(1=1)"), 1);
+        x.hours(1);
+        due.is("worn by the last one", x.webIs(0, 0), 84);
         due.says(LAW, "a FAULT: -1000 times its number, less its place (the one before stays)");
         due.empties("law of a fault at 0", -1000, y -> y.law(6), Due.bytes("y(p=0)"));
         due.empties("law of a fault at its end", -1007, y -> y.law(7), Due.bytes("x(p=0);"));

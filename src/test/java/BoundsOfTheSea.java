@@ -267,6 +267,10 @@ final class BoundsOfTheSea {
         due.says("Promise 14", "ALL THE SEA by so much (0 to 23), what 0 how many, 1 which (bits)");
         due.range("allTheSea", 0, 23, reach -> Due.at("a@1,0").allTheSea(reach, 0) == (reach < 22 ? -2 : 1));
         due.range("allTheSea what", 0, 1, what -> Due.at("b@1,0").allTheSea(23, what) == what + 1);
+        DraughtWebs webs = Due.at("a@11,7;b@0,7");
+        for (int reach : new int[] {0, 12, 11, 23, 12, 0}) {
+            due.is("one by one on one object, " + reach, webs.allTheSea(reach, 1), reach < 12 ? -2 : 1);
+        }
         due.says("Promise 14", "-2: all told ones do not do");
         due.is("no webs", new DraughtWebs().allTheSea(23, 0), -2);
         due.is("no webs", new DraughtWebs().allTheSea(23, 1), -2);

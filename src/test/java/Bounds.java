@@ -10,16 +10,13 @@ import java.util.regex.Matcher;
 import java.util.regex.Pattern;
 
 /**
- * Answers that are due by sentences of the document: each test says by which one it asks, and in the end each
- * place of the document that names a boundary case must have been said.
+ * Answers that are due by sentences of the document: each test says by which one it asks, and in the end every word
+ * of the Terms and of the promises must have been said.
  */
 final class Bounds {
-    /** Words by which the document names a boundary case. */
-    private static final Pattern NAMED = Pattern.compile("\\d+ to \\d+|\\d+th\\b|\\d+ less|third|sixth|seventh|"
-            + "at (most|least|first)|more than|is less than|above|below|bounds?\\b|beyond|modulo|\\b[Nn]one\\b|NONE|false|"
-            + "-[23]\\b|-10+\\b|\\bstays?\\b|\\bempty\\b|FAULTS?|REFUSED|refused|\\b[Nn]o such|not so many|"
-            + "like ones|of many|edges?\\b|32 bits|perhaps|the end\\b|no blanks|one to five|one or two|"
-            + "own PLACE|same WEB|as many as can|both ends|any will do|as matters|by then|by numbers|nothing");
+    private static final Pattern WORD = Pattern.compile("\\w+");
+    /** What is no sentence: the declaration of a promise's call (FaceTest asks it), and where parts begin. */
+    private static final Pattern NO_SENTENCE = Pattern.compile("\\A\n\n`[^`]+`: |```(text)?|==== \\d\\.");
     private static final int[] FAR_OFF = {Integer.MIN_VALUE, Integer.MIN_VALUE + 1, Integer.MAX_VALUE};
 
     private final Map<String, String> parts = new LinkedHashMap<>();
@@ -36,7 +33,7 @@ final class Bounds {
             String heading = part.lines().findFirst().orElse("");
             if (heading.equals("Terms") || heading.startsWith("Promise ")) {
                 String name = heading.split(":")[0];
-                parts.put(name, part.substring(heading.length()));
+                parts.put(name, NO_SENTENCE.matcher(part.substring(heading.length())).replaceAll(" "));
                 said.put(name, new BitSet());
             }
         }
@@ -136,11 +133,14 @@ final class Bounds {
     }
 
     private void seekUnsaid(String part, String text, BitSet saidThere) {
-        Matcher named = NAMED.matcher(text);
-        while (named.find()) {
-            if (saidThere.nextClearBit(named.start()) < named.end()) {
-                String around = text.substring(Math.max(0, named.start() - 40), Math.min(text.length(), named.end() + 40));
-                complain("no test says, of " + part + ": .." + around.replace('\n', ' ') + "..");
+        Matcher word = WORD.matcher(text);
+        int at = 0;
+        while (at < text.length() && word.find(at)) {
+            at = word.end();
+            if (saidThere.nextClearBit(word.start()) < at) {
+                int next = saidThere.nextSetBit(at);
+                at = next < 0 ? text.length() : next;
+                complain("no test says, of " + part + ", \"" + text.substring(word.start(), at).strip() + "\"");
             }
         }
     }

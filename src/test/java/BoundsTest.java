@@ -1,7 +1,7 @@
 import java.io.IOException;
 import java.nio.file.Path;
 
-/** Every sentence of the document that names a boundary case, with the answers that are due by it. */
+/** Every sentence of the document's Terms and promises, with the answers that are due by it. */
 public final class BoundsTest {
     private BoundsTest() {
     }
@@ -15,6 +15,7 @@ public final class BoundsTest {
         BoundsOfTheSea.ask(due);
         BoundsOfSums.ask(due);
         BoundsOfCalls.ask(due);
+        PlainSentences.ask(due);
         due.end();
     }
 }

@@ -3,31 +3,48 @@ import java.util.Collections;
 import java.util.List;
 import java.util.Random;
 
-/** Runs of drawn calls, each answered as PlainWebs answers it. The first argument: how many runs. */
+/**
+ * Runs of drawn calls, each answered as PlainWebs answers it; a few objects take turns, since what one holds is its
+ * own. The first argument: how many runs.
+ */
 public final class RandomRunsTest {
     private static final int[] EDGES = {-1, 0, 1, 7, 8, 99, 100, 101, Integer.MIN_VALUE, Integer.MAX_VALUE};
 
+    private static final int AT_ONCE = 4;
+
+    private final int run;
     private final Random random;
     private final Due due;
     private final DraughtWebs x = new DraughtWebs();
     private final PlainWebs plain = new PlainWebs();
     private int calls = 0;
 
-    private RandomRunsTest(long seed, Due due) {
-        this.random = new Random(seed);
+    private RandomRunsTest(int run, Due due) {
+        this.run = run;
+        this.random = new Random(run);
         this.due = due;
     }
 
     public static void main(String[] args) {
         int runs = args.length > 0 ? Integer.parseInt(args[0]) : 200;
         Due due = new Due("RandomRunsTest");
-        for (int run = 1; run <= runs; run++) {
-            RandomRunsTest test = new RandomRunsTest(run, due);
-            while (test.calls < 480) {
-                test.step(run);
-            }
+        for (int first = 1; first <= runs; first += AT_ONCE) {
+            takeTurns(first, Math.min(first + AT_ONCE - 1, runs), due);
         }
         due.end();
+    }
+
+    private static void takeTurns(int first, int last, Due due) {
+        List<RandomRunsTest> open = new ArrayList<>();
+        for (int run = first; run <= last; run++) {
+            open.add(new RandomRunsTest(run, due));
+        }
+        while (!open.isEmpty()) {
+            for (RandomRunsTest test : open) {
+                test.step();
+            }
+            open.removeIf(test -> test.calls >= 480);
+        }
     }
 
     private int upTo(int most) {
@@ -75,7 +92,7 @@ public final class RandomRunsTest {
         return bytes;
     }
 
-    private void step(int run) {
+    private void step() {
         calls++;
         String where = "run " + run + " call " + calls + ": ";
         switch (upTo(13)) {
